@@ -164,10 +164,11 @@ public final class TimberList {
             throw new IllegalStateException("a piece is not possible");
         }
         Piece first = new Piece(wanted, boardA, placeA, placeA + length, true);
-        if (boardA == boardB && !first.isClearOf(placeB, placeB + lengthB, saw)) {
+        Piece second = new Piece(wanted, boardB, placeB, placeB + lengthB, true);
+        if (boardA == boardB && !first.isClearOf(second.from, second.to, saw)) {
             throw new IllegalStateException("the pieces are not possible beside each other");
         }
-        takeFromBoards(new Cutting(wanted, first, new Piece(wanted, boardB, placeB, placeB + lengthB, true)));
+        takeFromBoards(new Cutting(wanted, first, second));
         return wanted.left;
     }
 
@@ -230,8 +231,8 @@ public final class TimberList {
             throw new IllegalArgumentException("a row has a length of 0 to 3000");
         }
         // The last piece needs no saw behind it: with one more width at the row's end every piece takes one.
-        int space = length + saw;
-        clearBestSums(space);
+        int space = Math.min(length + saw, bestSums.length - 1);
+        clearBestSums();
         for (int i = 0; i < parts.size(); i++) {
             Part part = parts.get(i);
             if (part.width <= of.width && part.grade >= grade) {
@@ -357,8 +358,8 @@ public final class TimberList {
 
     // ---- sums
 
-    private void clearBestSums(int space) {
-        for (int i = 0; i <= space && i < bestSums.length; i++) {
+    private void clearBestSums() {
+        for (int i = 0; i < bestSums.length; i++) {
             bestSums[i] = 0;
         }
     }

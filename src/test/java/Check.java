@@ -26,10 +26,17 @@ final class Check {
         try {
             call.run();
         } catch (RuntimeException e) {
-            thrown = e.getClass().getSimpleName();
+            thrown = nameOf(e);
         }
         is(what + " throws", thrown, due.getSimpleName());
         is(what + " leaves the digest", list.digest(), before);
+    }
+
+    /** The exception's name; with a mark if the library threw it, for which the class has to leave no occasion. */
+    static String nameOf(RuntimeException e) {
+        StackTraceElement[] trace = e.getStackTrace();
+        boolean isOwn = trace.length == 0 || trace[0].getClassName().matches("(TimberList|SlowList).*");
+        return e.getClass().getSimpleName() + (isOwn ? "" : " of the library");
     }
 
     /** Ends the program: with exit code 1 if something was wrong. */

@@ -265,6 +265,15 @@ public final class CuttingTest {
         check.is("15: one part", rooms.plan(), 1);
         check.is("15: only the earliest place of a board is looked at", rooms.pieces(1), 1);
 
+        TimberList second = new TimberList();
+        second.addBoard(1000, 100, 0);
+        second.addBoard(500, 100, 0);
+        second.addPart(60, 10, 0, 1, false);
+        second.addPart(120, 10, 0, 1, false);
+        second.cut(0, 0, 23);
+        second.plan();
+        check.is("15: a room ahead of the earliest place does not matter", second.pieces(1), 1);
+
         TimberList stretches = new TimberList();
         stretches.addBoard(300, 100, 0);
         stretches.addBoard(290, 100, 0);

@@ -126,6 +126,9 @@ public final class OutcomeTest {
         list.addPart(3000, 10, 3, 9, false);
         check.is("21: the longest row", list.bestUse(0, 3, 3000), 3000);
         check.is("21: one place less", list.bestUse(0, 3, 2999), 0);
+        TimberList widest = Lists.twoOfEach();
+        widest.setSaw(10);
+        check.is("21: the longest row and the widest saw", widest.bestUse(0, 0, 3000), 980);
     }
 
     private static void bestUseLimits() {

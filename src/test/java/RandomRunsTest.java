@@ -21,7 +21,7 @@ public final class RandomRunsTest {
         this.random = new Random(run);
         boolean isLong = run % 50 == 0;
         this.longestBoard = isLong ? 3000 : 100 + random.nextInt(300);
-        this.longestPart = isLong ? 900 : 21 + random.nextInt(150);
+        this.longestPart = isLong ? 900 : 40 + random.nextInt(longestBoard);
     }
 
     public static void main(String[] args) {
@@ -85,14 +85,16 @@ public final class RandomRunsTest {
     private void take() {
         int part = part();
         int board = board();
-        switch (random.nextInt(20)) {
+        // Planning takes nearly all that is left: every other run goes without, for the sake of joinings.
+        boolean isPlanned = run % 2 == 0;
+        switch (isPlanned ? random.nextInt(20) : 5 + random.nextInt(15)) {
             case 0 -> compare("plan", () -> list.plan(), () -> slow.plan());
-            case 1, 2, 3, 4, 5, 6 -> compare("undo", () -> list.undo(), () -> slow.undo());
-            case 7, 8, 9, 10, 11, 12 -> {
+            case 1, 2, 3, 4, 5 -> compare("undo", () -> list.undo(), () -> slow.undo());
+            case 6, 7, 8, 9, 10, 11, 12 -> {
                 int other = random.nextBoolean() ? board : board();
                 int placeA = place(part, board);
-                int placeB = random.nextBoolean() ? place(part, other) : placeA + number(-150, 150);
-                int length = number(45, Math.max(50, longestPart));
+                int length = number(50, Math.max(50, slow.lengthOf(part) - 35));
+                int placeB = random.nextBoolean() ? place(part, other) : placeA + length + number(0, 12);
                 compare("join " + part + " " + board + " " + placeA + " " + length + " " + other + " " + placeB,
                     () -> list.join(part, board, placeA, length, other, placeB),
                     () -> slow.join(part, board, placeA, length, other, placeB));
@@ -177,7 +179,7 @@ public final class RandomRunsTest {
         try {
             return String.valueOf(call.get());
         } catch (RuntimeException e) {
-            return "throws." + e.getClass().getSimpleName();
+            return "throws." + Check.nameOf(e);
         }
     }
 }

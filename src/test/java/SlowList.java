@@ -206,6 +206,11 @@ final class SlowList {
         return best;
     }
 
+    /** The length of a part, for choosing how to join it; 0 if there is no such part. */
+    int lengthOf(int part) {
+        return part < 0 || part >= parts.size() ? 0 : parts.get(part).length;
+    }
+
     int left(int part) {
         index(part, parts.size());
         return parts.get(part).left;
