@@ -3,8 +3,9 @@ import java.util.function.Supplier;
 
 /** Long runs of mixed calls, by fixed seeds: TimberList and SlowList have to answer alike. */
 public final class RandomRunsTest {
-    private static final int RUNS = 1500;
-    private static final int CALLS = 512;
+    private static final int RUNS = 3000;
+    /** An object is used for at most 512 calls, and digest() is asked behind each of these. */
+    private static final int CALLS = 256;
     private static final int[] FAR = {-1, -2, Integer.MIN_VALUE, Integer.MAX_VALUE, Integer.MAX_VALUE - 20, 3000, 12, 10};
 
     private final Check check;
@@ -12,6 +13,7 @@ public final class RandomRunsTest {
     private final int run;
     private final int longestBoard;
     private final int longestPart;
+    private final boolean isCrowded;
     private final TimberList list = new TimberList();
     private final SlowList slow = new SlowList();
 
@@ -21,6 +23,7 @@ public final class RandomRunsTest {
         this.random = new Random(run);
         boolean isLong = run % 50 == 0;
         this.longestBoard = isLong ? 3000 : 100 + random.nextInt(300);
+        this.isCrowded = run % 3 == 0;
         this.longestPart = isLong ? 900 : 40 + random.nextInt(longestBoard);
     }
 
@@ -34,7 +37,7 @@ public final class RandomRunsTest {
 
     private void play() {
         for (int i = 0; i < CALLS; i++) {
-            if (i < 20 || random.nextInt(12) == 0) {
+            if (i < (isCrowded ? 70 : 20) || random.nextInt(12) == 0) {
                 change();
             } else {
                 int kind = random.nextInt(10);
@@ -151,11 +154,11 @@ public final class RandomRunsTest {
     }
 
     private int board() {
-        return number(0, 3);
+        return number(0, isCrowded ? 9 : 3);
     }
 
     private int part() {
-        return number(0, 5);
+        return number(0, isCrowded ? 11 : 5);
     }
 
     /** Often a place that is possible, or just beside one. */
