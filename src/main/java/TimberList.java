@@ -35,7 +35,8 @@ public final class TimberList {
     public int addBoard(int length, int width, int grade) throws IllegalArgumentException, IllegalStateException {
         if (!isWithin(length, MIN_BOARD_LENGTH, MAX_LENGTH) || !isWithin(width, MIN_WIDTH, MAX_WIDTH)
                 || !isGrade(grade)) {
-            throw new IllegalArgumentException("a board has a length of 100 to 3000, a width of 10 to 400, a grade of 0 to 3");
+            throw new IllegalArgumentException(
+                    "a board has a length of 100 to 3000, a width of 10 to 400, a grade of 0 to 3");
         }
         if (boards.size() >= MAX_BOARDS) {
             throw new IllegalStateException("there are 10 boards");
@@ -65,7 +66,8 @@ public final class TimberList {
             throws IllegalArgumentException, IllegalStateException {
         if (!isWithin(length, MIN_PART_LENGTH, MAX_LENGTH) || !isWithin(width, MIN_WIDTH, MAX_WIDTH)
                 || !isGrade(grade) || !isWithin(count, 1, MAX_COUNT)) {
-            throw new IllegalArgumentException("a part has a length of 20 to 3000, a width of 10 to 400, a grade of 0 to 3, a count of 1 to 9");
+            throw new IllegalArgumentException(
+                    "a part has a length of 20 to 3000, a width of 10 to 400, a grade of 0 to 3, a count of 1 to 9");
         }
         if (parts.size() >= MAX_PARTS) {
             throw new IllegalStateException("there are 12 parts");
